@@ -143,6 +143,7 @@ public final class PromisesTest {
         due("voice(2, 3)", x.voice(2, 3), 4);
         due("voice(2, 3) again", x.voice(2, 3), 4);
         due("breach(2, 1)", x.breach(2, 1), 1);
+        refused(x, "voice under a ban of a week", x.voice(2, 4), 4, 1);
         due("breach(2, 1)", x.breach(2, 1), 3);
         refused(x, "voice under a ban", x.voice(2, 4), 4, 3);
         refused(x, "voice under a ban for nobody", x.voice(2, 0), 4, 3);
@@ -436,6 +437,18 @@ public final class PromisesTest {
         x.weeks(52);
         due("the older gown first", x.brotherOf(5, 4), 0);
         due("age of one who left later", x.brotherOf(4, 0), 56);
+    }
+
+    private static void p11GownsBounds() {
+        PittanceHouse x = yearsWithGifts(20);
+        x.weeks(52);
+        due("three gowns for 24 pence", x.account(13), 3);
+        due("an empty chest", x.account(9), 0);
+        PittanceHouse y = housed(8, 8);
+        y.weeks(52);
+        y.weeks(52);
+        due("eight gowns", y.account(13), 8);
+        due("the rest", y.account(9), 36);
     }
 
     private static void p11Ages() {
@@ -747,9 +760,9 @@ public final class PromisesTest {
             "pardon 123", "pardon 1 1", "pardo", "feast 51 10", "feast 512 1", "feast 1 -1", "gift 1000", "gift -1",
             "gift  1", "gift 1;gift 2;gift", "weeks 100", "weeks 1;;", "weeks 1; weeks 1", "weeks 1;weeks 1:",
             "gift 1;gift 1;gift 1;gift 1;gift 1;gift 1;gift 1;gift 1;giv", "gift 1;gift 1;gift 1;gift 1;gift 1;gift 1;"
-            + "gift 1;gift 1;gift", "leave 9,"};
+            + "gift 1;gift 1;gift", "leave 9,", "leave1", "voice1 2"};
         int[] faults = {0, 0, 0, 0, 1, 1, 5, 5, 6, 6, 7, 8, 8, 8, 7, 8, 10, 11, 10, 8, 7, 4, 7, 7, 9, 10, 13, 9, 8, 5,
-            10, 8, 8, 8, 5, 5, 18, 8, 8, 8, 15, 58, 60, 7};
+            10, 8, 8, 8, 5, 5, 18, 8, 8, 8, 15, 58, 60, 7, 5, 5};
         for (int i = 0; i < texts.length; i++) {
             due("run of \"" + texts[i] + "\"", orders(x, texts[i]), -1000 - faults[i]);
             due("the text behind it", x.account(15), 0);
@@ -933,6 +946,20 @@ public final class PromisesTest {
         }
     }
 
+    private static void p31Bans() {
+        PittanceHouse x = housed(8, 8);
+        for (int b = 0; b < 8; b++) {
+            x.breach(b, 0);
+            due("account(7)", x.account(7), b + 1);
+        }
+        x.pardon(0);
+        due("account(7) behind a pardon", x.account(7), 7);
+        x.leave(7);
+        due("account(7) behind a leave", x.account(7), 6);
+        x.weeks(1);
+        due("account(7) behind a week", x.account(7), 0);
+    }
+
     private static void p32IsBalanced() {
         PittanceHouse x = waiting(16);
         due("isBalanced()", x.isBalanced(), 1);
@@ -1076,7 +1103,7 @@ public final class PromisesTest {
         each("8"); p8Breach();
         each("9"); p9Pardon();
         each("10"); p10Gift();
-        each("11"); p11WeeksBounds(); p11SmallChest(); p11RentsBehindTheFeast(); p11Gowns(); p11Ages();
+        each("11"); p11WeeksBounds(); p11SmallChest(); p11RentsBehindTheFeast(); p11Gowns(); p11GownsBounds(); p11Ages();
         each("12"); p12BrotherOf();
         each("13"); p13Broke();
         each("14"); p14InCell();
@@ -1094,7 +1121,7 @@ public final class PromisesTest {
         each("28"); p28TellWaiting();
         each("29"); p29Character();
         each("30"); p30Reason();
-        each("31"); p31Account();
+        each("31"); p31Account(); p31Bans();
         each("32"); p32IsBalanced();
         each("33"); p33MeanAge();
         each("34"); p34EntitledShare();
