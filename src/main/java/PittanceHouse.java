@@ -905,7 +905,7 @@ public final class PittanceHouse {
             }
         }
 
-        /** A new gown goes to the end of the ranks, so the first of them is always the next one to get one. */
+        /** A new gown ranks behind every old one, so the first of the ranks is always the next to get one. */
         private void buyGowns() {
             for (int i = 0; i < CELLS; i++) {
                 int brother = ranks.byGown(state, 0);
