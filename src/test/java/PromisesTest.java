@@ -1,69 +1,5 @@
 /** For each promise: ordinary inputs, the edges that the document names, and wrong inputs. */
-public final class PromisesTest {
-    private static final int NONE = PittanceHouse.NONE;
-    private static final int BAD = PittanceHouse.BAD;
-    private static final int FULL = PittanceHouse.FULL;
-    private static final int REFUSED = PittanceHouse.REFUSED;
-    private static final int NOTHING = PittanceHouse.NOTHING;
-    private static final int[] FAR = {Integer.MIN_VALUE, -1000000, -1, 1 << 28, Integer.MAX_VALUE};
-    private static int wrong = 0;
-    private static String promise = "";
-
-    private static void due(String call, double got, double want) {
-        if (got != want) {
-            wrong++;
-            System.out.println(promise + ": " + call + " answered " + got + ", due is " + want);
-        }
-    }
-
-    private static void refused(PittanceHouse x, String call, int got, int reason, int detail) {
-        due(call, got, REFUSED);
-        due("reason of " + call, x.reason(false), reason);
-        due("detail of " + call, x.reason(true), detail);
-    }
-
-    /** A house of so many who wait, number k of the age 50 + k and kin if k is odd. */
-    private static PittanceHouse waiting(int many) {
-        PittanceHouse x = new PittanceHouse();
-        for (int i = 0; i < many; i++) {
-            x.come(50 + i, i % 2 == 1);
-        }
-        return x;
-    }
-
-    /** The same, and then the first of them go into the first cells, each into that of his number. */
-    private static PittanceHouse housed(int many, int inCells) {
-        PittanceHouse x = waiting(many);
-        for (int i = 0; i < inCells; i++) {
-            x.choose(i);
-        }
-        return x;
-    }
-
-    private static int orders(PittanceHouse x, String text) {
-        for (int i = 0; i < text.length(); i++) {
-            x.append(text.charAt(i));
-        }
-        return x.run();
-    }
-
-    private static String lineOf(PittanceHouse x, int length) {
-        StringBuilder line = new StringBuilder();
-        for (int i = 0; i < length; i++) {
-            line.append((char) x.character(i));
-        }
-        due("character behind the end", x.character(length), NONE);
-        return line.toString();
-    }
-
-    private static void line(PittanceHouse x, int length, String want) {
-        String got = lineOf(x, length);
-        if (!got.equals(want)) {
-            wrong++;
-            System.out.println(promise + ": the line is \"" + got + "\", due is \"" + want + "\"");
-        }
-    }
-
+public final class PromisesTest extends Checks {
     private static void p1New() {
         PittanceHouse x = new PittanceHouse();
         for (int what = 0; what <= 16; what++) {
@@ -753,7 +689,6 @@ public final class PromisesTest {
     }
 
     private static void p26Faults() {
-        PittanceHouse x = new PittanceHouse();
         String[] texts = {"", " ", "x", "V", "b", "bx", "voice", "voicee", "voice ", "voice x", "voice 1", "voice 12",
             "voice 123", "voice 1 ", "voice 1;", "voice 1  2", "voice 1 2;", "voice 1 23;;", "voice 1 234",
             "choose 12", "choose ;", "chooze 1", "leave 1 ", "leave 12", "leave 1;l", "breach 1 12", "breach 12 1;b 1",
@@ -764,12 +699,13 @@ public final class PromisesTest {
         int[] faults = {0, 0, 0, 0, 1, 1, 5, 5, 6, 6, 7, 8, 8, 8, 7, 8, 10, 11, 10, 8, 7, 4, 7, 7, 9, 10, 13, 9, 8, 5,
             10, 8, 8, 8, 5, 5, 18, 8, 8, 8, 15, 58, 60, 7, 5, 5};
         for (int i = 0; i < texts.length; i++) {
+            PittanceHouse x = new PittanceHouse();
             due("run of \"" + texts[i] + "\"", orders(x, texts[i]), -1000 - faults[i]);
             due("the text behind it", x.account(15), 0);
+            due("no change", x.account(16), 0);
+            due("no reason", x.reason(false), NOTHING);
+            due("the chest", x.account(9), 100);
         }
-        due("no change", x.account(16), 0);
-        due("no reason", x.reason(false), NOTHING);
-        due("the chest", x.account(9), 100);
     }
 
     private static void p26Orders() {
@@ -1088,48 +1024,41 @@ public final class PromisesTest {
         due("inCell(5)", x.inCell(5), 0);
     }
 
-    private static void each(String name) {
-        promise = name;
-    }
-
     public static void main(String[] args) {
-        each("1"); p1New();
-        each("2"); p2Come();
-        each("3"); p3Withdraw();
-        each("4"); p4Voice();
-        each("5"); p5Choose();
-        each("6"); p6Leave();
-        each("7"); p7Feast();
-        each("8"); p8Breach();
-        each("9"); p9Pardon();
-        each("10"); p10Gift();
-        each("11"); p11WeeksBounds(); p11SmallChest(); p11RentsBehindTheFeast(); p11Gowns(); p11GownsBounds(); p11Ages();
-        each("12"); p12BrotherOf();
-        each("13"); p13Broke();
-        each("14"); p14InCell();
-        each("15, 16"); p15And16Entitled();
-        each("17, 18"); p17And18Voices();
-        each("19"); p19Ranked();
-        each("20"); p20Senior();
-        each("21"); p21Shabby();
-        each("22"); p22NextFeast();
-        each("23"); p23WouldGet();
-        each("24"); p24ChestIn();
-        each("25"); p25Append();
-        each("26"); p26Faults(); p26Orders(); p26Refused();
-        each("27"); p27Tell(); p27OldGowns();
-        each("28"); p28TellWaiting();
-        each("29"); p29Character();
-        each("30"); p30Reason();
-        each("31"); p31Account(); p31Bans();
-        each("32"); p32IsBalanced();
-        each("33"); p33MeanAge();
-        each("34"); p34EntitledShare();
-        each("35"); p35Undo();
-        each("36, 37"); p36And37SaveAndRestore();
-        System.out.println(wrong == 0 ? "the promises hold" : wrong + " answers are not as due");
-        if (wrong != 0) {
-            System.exit(1);
-        }
+        about("1"); p1New();
+        about("2"); p2Come();
+        about("3"); p3Withdraw();
+        about("4"); p4Voice();
+        about("5"); p5Choose();
+        about("6"); p6Leave();
+        about("7"); p7Feast();
+        about("8"); p8Breach();
+        about("9"); p9Pardon();
+        about("10"); p10Gift();
+        about("11"); p11WeeksBounds(); p11SmallChest(); p11RentsBehindTheFeast(); p11Gowns(); p11GownsBounds(); p11Ages();
+        about("12"); p12BrotherOf();
+        about("13"); p13Broke();
+        about("14"); p14InCell();
+        about("15, 16"); p15And16Entitled();
+        about("17, 18"); p17And18Voices();
+        about("19"); p19Ranked();
+        about("20"); p20Senior();
+        about("21"); p21Shabby();
+        about("22"); p22NextFeast();
+        about("23"); p23WouldGet();
+        about("24"); p24ChestIn();
+        about("25"); p25Append();
+        about("26"); p26Faults(); p26Orders(); p26Refused();
+        about("27"); p27Tell(); p27OldGowns();
+        about("28"); p28TellWaiting();
+        about("29"); p29Character();
+        about("30"); p30Reason();
+        about("31"); p31Account(); p31Bans();
+        about("32"); p32IsBalanced();
+        about("33"); p33MeanAge();
+        about("34"); p34EntitledShare();
+        about("35"); p35Undo();
+        about("36, 37"); p36And37SaveAndRestore();
+        end("the promises hold");
     }
 }
