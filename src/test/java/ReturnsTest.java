@@ -445,6 +445,25 @@ public final class ReturnsTest extends Checks {
         is(x.account(9), 148);
     }
 
+    @Says(of = 11, value = "Lets weeks go by.")
+    static void weeksLeaveCellsVoicesAndBreachesAsTheyAre() {
+        PittanceHouse x = waiting(9);
+        x.choose(1);
+        x.choose(0);
+        x.voice(0, 8);
+        x.breach(0, 0);
+        x.breach(0, 0);
+        x.feast(0, 5);
+        is(x.weeks(1), 5);
+        is(x.inCell(1), 0);
+        is(x.inCell(0), 1);
+        is(x.brotherOf(0, 8), 8);
+        is(x.brotherOf(1, 8), NOTHING);
+        is(x.brotherOf(0, 7), 2);
+        is(x.brotherOf(0, 1), 0);
+        is(x.account(3), 7);
+    }
+
     @Says(of = 11, value = "how many, 1 to 60")
     static void oneWeekAndSixty() {
         PittanceHouse x = new PittanceHouse();
@@ -505,6 +524,7 @@ public final class ReturnsTest extends Checks {
     @Says(of = 12, value = "1 for 1 if he is kin, and 0 otherwise")
     static void whetherHeIsKin() {
         PittanceHouse x = housed(2, 2);
+        x.weeks(60);
         x.leave(1);
         is(x.brotherOf(0, 1), 0);
         is(x.brotherOf(1, 1), 1);
@@ -981,6 +1001,29 @@ public final class ReturnsTest extends Checks {
         is(x.senior(7), 7);
     }
 
+    /** Each of the brethren 0 to 7 has left his cell, and the brethren 8 to 15 came into it in their order. */
+    private static PittanceHouse allWereInCells() {
+        PittanceHouse x = housed(16, 8);
+        for (int cell = 0; cell < 8; cell++) {
+            x.leave(cell);
+            x.choose(cell);
+        }
+        return x;
+    }
+
+    @Says(of = 20, value = "the one who came first is first.")
+    static void theSixteenthWhoIsChosenIsTheLastSenior() {
+        PittanceHouse x = allWereInCells();
+        is(x.senior(7), 15);
+        for (int cell = 0; cell < 7; cell++) {
+            x.leave(cell);
+            is(x.senior(0), 9 + cell);
+        }
+        is(x.senior(0), 15);
+        is(x.senior(1), NONE);
+        is(x.shabby(0), 15);
+    }
+
     @Says(of = 20, value = "NONE if there is no such place.")
     static void noSuchSenior() {
         PittanceHouse x = housed(16, 8);
@@ -1031,6 +1074,15 @@ public final class ReturnsTest extends Checks {
         PittanceHouse x = housed(8, 8);
         is(x.shabby(0), 0);
         is(x.shabby(7), 7);
+    }
+
+    @Says(of = 21, value = "the one who came into his cell first.")
+    static void theSixteenthWhoIsChosenIsTheLastOfNewGowns() {
+        PittanceHouse x = allWereInCells();
+        is(x.shabby(0), 8);
+        is(x.shabby(7), 15);
+        x.weeks(52);
+        is(x.shabby(7), 15);
     }
 
     @Says(of = 21, value = "NONE if there is no such place.")

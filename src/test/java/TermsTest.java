@@ -1064,6 +1064,16 @@ public final class TermsTest extends Checks {
     }
 
     @Says("words are looked at letter by letter")
+    static void aDigitInAWordIsAFault() {
+        for (String order : ORDERS) {
+            for (int i = 0; i <= order.indexOf(' '); i++) {
+                is(runNew(order.substring(0, i) + "5"), -1000 - i);
+                is(runNew(order.substring(0, i) + "5" + order.substring(i)), -1000 - i);
+            }
+        }
+    }
+
+    @Says("words are looked at letter by letter")
     static void theFaultIsTheFirstLetterThatFitsNoWord() {
         is(runNew("woice 1 2"), -1001);
         is(runNew("creach 0 0"), -1001);
